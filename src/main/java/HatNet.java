@@ -1409,6 +1409,10 @@ public final class HatNet {
 
     /** What ACTS do to TABLES and sight. */
     private static final class Acts {
+        // With a multiple of the least number that all divide, all STEPS and numbers are as many
+        // times greater, and the TABLES are the same: so one number serves every CLIQUE.
+        private static final int MODULUS = 12;
+
         private final Game game;
 
         Acts(Game of) {
@@ -1417,40 +1421,26 @@ public final class HatNet {
 
         /** TABLES OF A CLIQUE: how many entries are others than they were. */
         int tellClique(int set) {
-            int modulus = leastMultiple(set);
             int first = 0;
             int changed = 0;
             for (int p = 0; p < game.players; p++) {
                 if ((set >> p & 1) == 1) {
-                    changed += tellMember(p, set, modulus, first);
-                    first += modulus / game.hats[p];
+                    changed += tellMember(p, set, first);
+                    first += MODULUS / game.hats[p];
                 }
             }
             return changed;
         }
 
-        private int leastMultiple(int set) {
-            for (int m = 1; m < Network.WHOLE; m++) {
-                boolean allDivide = true;
-                for (int p = 0; p < game.players; p++) {
-                    allDivide &= (set >> p & 1) == 0 || m % game.hats[p] == 0;
-                }
-                if (allDivide) {
-                    return m;
-                }
-            }
-            return Network.WHOLE;
-        }
-
-        private int tellMember(int p, int set, int modulus, int first) {
-            int step = modulus / game.hats[p];
+        private int tellMember(int p, int set, int first) {
+            int step = MODULUS / game.hats[p];
             int changed = 0;
             int situations = game.situations(p);
             for (int s = 0; s < situations; s++) {
-                int sum = sumSeen(p, s, set, modulus);
+                int sum = sumSeen(p, s, set);
                 int guess = 0;
                 for (int c = 0; c < game.hats[p]; c++) {
-                    if (Math.floorMod(sum + c * step - first, modulus) < step) {
+                    if (Math.floorMod(sum + c * step - first, MODULUS) < step) {
                         guess = c;
                     }
                 }
@@ -1462,11 +1452,11 @@ public final class HatNet {
             return changed;
         }
 
-        private int sumSeen(int p, int s, int set, int modulus) {
+        private int sumSeen(int p, int s, int set) {
             int sum = 0;
             for (int q = 0; q < game.players; q++) {
                 if (q != p && (set >> q & 1) == 1) {
-                    sum += game.colourIn(p, s, q) * (modulus / game.hats[q]);
+                    sum += game.colourIn(p, s, q) * (MODULUS / game.hats[q]);
                 }
             }
             return sum;
@@ -1841,6 +1831,7 @@ public final class HatNet {
         private final Tokens tokens;
         private int at = 0;
         private int number = 0;
+        private final int[] guesses = new int[MOST_SITUATIONS];
         private int hatted = 0;
         private int guessed = 0;
 
@@ -1976,33 +1967,27 @@ public final class HatNet {
             if (rule == Tokens.FIXED) {
                 return readNumber(0, game.hats[p] - 1);
             }
-            if (!readPlayer()) {
+            if (!readNumber(0, game.players - 1)) {
                 return false;
             }
             return game.watches(p, number) || fail(CANT_BE, at - 1);
         }
 
+        /** Each COLOUR that p sees counts less for sum, more for same and next of that PLAYER alone. */
         private void tellByRule(int p, int rule) {
-            int situations = game.situations(p);
-            for (int s = 0; s < situations; s++) {
-                int colour = number;
-                if (rule == Tokens.SUM) {
-                    colour -= sumSeen(p, s);
-                } else if (rule == Tokens.SAME) {
-                    colour = game.colourIn(p, s, number);
-                } else if (rule == Tokens.NEXT) {
-                    colour = game.colourIn(p, s, number) + 1;
-                }
-                game.tell(p, s, Math.floorMod(colour, game.hats[p]));
-            }
-        }
-
-        private int sumSeen(int p, int s) {
-            int sum = 0;
+            boolean copied = rule == Tokens.SAME || rule == Tokens.NEXT;
+            int more = rule == Tokens.NEXT ? 1 : 0;
+            int size = 1;
+            guesses[0] = copied ? more : number;
             for (int q = 0; q < game.players; q++) {
-                sum += game.watches(p, q) ? game.colourIn(p, s, q) : 0;
+                if (game.watches(p, q)) {
+                    int weight = copied && q == number ? 1 : 0;
+                    size = lengthen(guesses, size, game.hats[q], rule == Tokens.SUM ? -1 : weight);
+                }
             }
-            return sum;
+            for (int s = 0; s < size; s++) {
+                game.tell(p, s, Math.floorMod(guesses[s], game.hats[p]));
+            }
         }
 
         private boolean readTable(int p) {
@@ -2045,7 +2030,9 @@ public final class HatNet {
         }
 
         private boolean misplaced() {
-            return fail(tokens.kind[at] == Tokens.NEITHER ? NO_TOKEN : MISPLACED, at);
+            fault = tokens.kind[at] == Tokens.NEITHER ? NO_TOKEN : MISPLACED;
+            place = tokens.start[at];
+            return false;
         }
 
         private boolean fail(int what, int token) {

@@ -7,6 +7,7 @@ import java.util.Random;
 /** Runs of drawn calls, held against NaiveHatNet: every answer and every STATUS. */
 public final class RandomRunsTest {
     private static final int RUNS = 500;
+    private static final int LARGE_RUNS = 40;
     private static final int CALLS = 240;
 
     private final Check check = new Check("RandomRunsTest");
@@ -29,7 +30,52 @@ public final class RandomRunsTest {
             random = new Random(1000 + run);
             oneRun(run);
         }
+        for (int run = 0; run < LARGE_RUNS; run++) {
+            random = new Random(run);
+            oneLargeRun();
+        }
         check.end();
+    }
+
+    /** Large games, where the plain document would be too slow: no call may throw, or answer wildly. */
+    private void oneLargeRun() throws Exception {
+        HatNet x = new HatNet();
+        for (int call = 0; call < CALLS; call++) {
+            if (call % 80 == 0) {
+                String text = largeText();
+                Check.feed(x, text);
+                players = x.load(text.length());
+                check.due(text + " is loaded", players, text.charAt(8) - '0');
+                players = x.many(0);
+            }
+            Method m = methods.get(random.nextInt(methods.size()));
+            if (m.getName().equals("feed")) {
+                continue;
+            }
+            Object[] with = arguments(m);
+            int answer = (Integer) m.invoke(x, with);
+            boolean counts = m.getName().equals("search") || m.getName().equals("shuffle");
+            check.due(m.getName() + java.util.Arrays.toString(with) + " answers " + answer,
+                answer >= HatNet.NONE && (answer <= 20000 || counts) ? 1 : 0, 1);
+        }
+    }
+
+    private String largeText() {
+        int n = 5 + random.nextInt(2);
+        StringBuilder b = new StringBuilder("players " + n + ";");
+        for (int p = 0; p < n; p++) {
+            b.append("hats ").append(p).append(' ').append(2 + random.nextInt(3)).append(';');
+        }
+        for (int p = 0; p < n; p++) {
+            for (int q = p + 1; q < n; q++) {
+                int kind = random.nextInt(6);
+                b.append(kind == 0 ? "" : kind == 1 ? "sees " + q + " " + p + ";" : "link " + p + " " + q + ";");
+            }
+        }
+        for (int p = 0; p < n; p++) {
+            b.append("guess ").append(p).append(" sum ").append(random.nextInt(100)).append(';');
+        }
+        return b.toString();
     }
 
     private void oneRun(int run) throws Exception {
