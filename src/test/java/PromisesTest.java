@@ -178,6 +178,10 @@ public final class PromisesTest {
         fault("players 2;link 0 1;sees 1 0;", 4, 26);
         fault("players 2;link 0 1", 2, 18);
         fault("players 2;link 0 A;link 0 1;", 1, 17);
+        fault("a1".repeat(300), 2, 0);
+        fault(";".repeat(600), 2, 0);
+        fault("1a".repeat(300), 2, 0);
+        fault("players 1;" + " ".repeat(589) + "1", 2, 599);
         noFault("players 2;sees 0 1;sees 1 0;", 2);
         noFault("", 0);
         noFault(" \n ", 0);
@@ -518,6 +522,9 @@ public final class PromisesTest {
         // 2 to the 14th.
         HatNet e = Check.game("players 6;link 0 1;link 0 2;link 3 4;sees 5 0;");
         c.fine("41: many", e, e.ways(0), 16384);
+        // 14 entries of TABLES, as many as there can be.
+        c.fine("41: none is LOST in", e, e.ways(1), wonWithTwoLinks());
+        c.fine("41: the fewest", e, e.ways(2), 0);
         HatNet f = Check.game("players 6;hats 0 4;hats 1 4;hats 2 4;hats 3 4;hats 4 4;hats 5 4;");
         c.fine("41: as many colourings", f, f.ways(0), 4096);
         c.fine("41: not one is RIGHT more", f, f.ways(2), 729);
@@ -530,9 +537,24 @@ public final class PromisesTest {
         c.fine("41: one COLOUR, one way", o, o.ways(0), 4);
         c.fine("41: it is always RIGHT", o, o.ways(1), 4);
         c.fine("41: none is LOST", o, o.ways(2), 0);
+        HatNet q = Check.game("players 4;hats 0 1;hats 1 4;hats 2 4;hats 3 4;sees 0 1;sees 0 2;sees 0 3;");
+        c.fine("41: it sees 64 SITUATIONS", q, q.ways(0), 64);
+        c.fine("41: and is always RIGHT", q, q.ways(1), 64);
         HatNet p = Check.game("players 6;hats 0 1;hats 1 1;hats 2 1;hats 3 1;hats 4 1;hats 5 4;"
             + "link 0 5;link 1 5;link 2 5;link 3 5;link 4 5;");
         c.fine("41: ones with four", p, p.ways(1), 4);
+    }
+
+    /** By NaiveHatNet, of the same game. */
+    private int wonWithTwoLinks() {
+        NaiveHatNet y = new NaiveHatNet();
+        String text = "players 6;link 0 1;link 0 2;link 3 4;sees 5 0;    ";
+        for (int at = 0; at < text.length(); at += 20) {
+            y.feed(Check.four(text, at), Check.four(text, at + 4), Check.four(text, at + 8),
+                Check.four(text, at + 12), Check.four(text, at + 16));
+        }
+        y.load(text.length());
+        return y.ways(1);
     }
 
     /** Promise 42. */
@@ -637,6 +659,15 @@ public final class PromisesTest {
         shape(WHEEL, 3);
         shape(FOUR, 4);
         shape("players 4;link 0 1;link 1 2;link 2 3;link 3 0;sees 0 2;", 0);
+        // Two rings that share 0, alone and around a hub; a wheel where one sees one more.
+        shape("players 5;link 0 1;link 0 2;link 1 2;link 0 3;link 0 4;link 3 4;", 0);
+        shape("players 6;link 0 1;link 0 2;link 1 2;link 0 3;link 0 4;link 3 4;link 5 0;link 5 1;link 5 2;"
+            + "link 5 3;link 5 4;", 0);
+        shape(WHEEL + "sees 0 2;", 0);
+        shape("players 6;link 0 1;link 1 2;link 2 3;link 3 4;link 4 0;link 5 0;link 5 1;link 5 2;link 5 3;"
+            + "link 5 4;", 3);
+        HatNet d = Check.game(WHEEL + "sees 0 2;");
+        c.refused("47: one sees one more", d, d.hub(), 5);
         HatNet w = Check.game(WHEEL);
         c.fine("47: hub", w, w.hub(), 4);
         HatNet f = Check.game(FOUR);
