@@ -259,6 +259,9 @@ final class ActSentences extends Sentences {
         x.set(1, 1, 1);
         fine(x.build(3), 0);
         refused(x.build(3), SO_ALREADY);
+        x.set(0, 0, 1);
+        fine(x.build(3), 0);
+        refused(x.build(3), SO_ALREADY);
         fine(x.build(2), 1);
         refused(x.build(2), SO_ALREADY);
         game("players 1;");
@@ -273,6 +276,14 @@ final class ActSentences extends Sentences {
         x.rename(0, 2, 1);
         same(table(0), "0321");
         same(table(1), "0");
+        // Others are RIGHT, and LOST, then.
+        game("players 3;hats 0 3;guess 0 fixed 1;guess 1 fixed 1;");
+        fine(x.lost(0), 1);
+        x.rename(0, 0, 1);
+        fine(x.lost(0), 5);
+        fine(x.lost(1), 9);
+        fine(x.right(0), 5);
+        fine(x.known(0, 0), 0);
     }
 
     @Sentence(of = "Promise 53", says = "and in those of all who see it:")
@@ -288,6 +299,9 @@ final class ActSentences extends Sentences {
         x.rename(2, 0, 1);
         same(table(1), "10" + "01" + "00" + "11");
         same(table(2), "10");
+        game("players 2;hats 1 3;sees 0 1;guess 0 table 0 1 1;");
+        fine(x.rename(1, 0, 2), 3);
+        same(table(0) + table(1), "1102");
     }
 
     @Sentence(of = "Promise 53", says = "how many entries of TABLES are others than they were")
@@ -343,6 +357,13 @@ final class ActSentences extends Sentences {
         fine(x.heeded(0), 4);
         x.see(3, 0, true);
         same(table(3), "00");
+        // Between two that it sees.
+        game("players 4;sees 0 1;sees 0 3;guess 0 table 0 1 1 0;");
+        x.see(0, 2, true);
+        same(table(0), "0101" + "1010");
+        game("players 4;hats 1 3;hats 2 4;hats 3 3;sees 0 1;sees 0 3;guess 0 table 0 1 1 0 0 1 1 0 1;");
+        fine(x.see(0, 2, true), 36);
+        same(table(0), "011".repeat(4) + "001".repeat(4) + "101".repeat(4));
     }
 
     @Sentence(of = "Promise 54", says = "or no more: it guesses as it did with COLOUR 0 of that one:")

@@ -166,6 +166,10 @@ final class BoundSentences extends Sentences {
         fine(x.strongest(), 3);
         game("players 4;hats 0 3;hats 3 1;link 0 1;");
         fine(x.strongest(), 8);
+        game(WON);
+        fine(x.strongest(), 3);
+        game("players 1;hats 0 4;");
+        fine(x.strongest(), 1);
     }
 
     @Sentence(of = "Promise 36", says = "of several the least")

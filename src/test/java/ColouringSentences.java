@@ -280,6 +280,16 @@ final class ColouringSentences extends Sentences {
         }
         fine(x.many(2), 3);
         fine(x.lost(NONE), 2);
+        // It guesses 0, and is not RIGHT where it was; LOST are 1 0 and 2 0. With 1 guessed: 0 0 and 2 0.
+        game("players 2;hats 0 3;sees 0 1;guess 0 same 1;guess 1 fixed 1;");
+        fine(x.blinded(0, 1), 2);
+        game("players 2;hats 0 3;sees 0 1;guess 0 fixed 1;guess 1 fixed 1;");
+        fine(x.blinded(0, 1), 2);
+        // With COLOUR 0 of 1 it guesses otherwise than 2 has, who guesses what it has.
+        game("players 3;hats 1 3;sees 0 1;sees 0 2;sees 2 0;guess 0 table 1 0 0 1 0 1;guess 2 same 0;");
+        fine(x.blinded(0, 1), 0);
+        game("players 3;hats 2 3;sees 0 1;sees 0 2;sees 1 0;guess 0 table 1 0 0 0 1 1;guess 1 same 0;");
+        fine(x.blinded(0, 2), 0);
     }
 
     @Sentence(of = "Promise 24", says = "(2;")
@@ -367,6 +377,10 @@ final class ColouringSentences extends Sentences {
         fine(x.needed(), 63);
         game("players 1;hats 0 4;");
         fine(x.needed(), 1);
+        game("players 6;hats 0 1;");
+        fine(x.needed(), 1);
+        game("players 6;hats 5 1;");
+        fine(x.needed(), 32);
     }
 
     @Sentence(of = "Promise 26", says = "of several the least as bits")
@@ -397,6 +411,10 @@ final class ColouringSentences extends Sentences {
                 fine(x.known(p, c), due[p][c]);
             }
         }
+        game("players 2;guess 0 fixed 1;guess 1 fixed 1;");
+        fine(x.known(0, 0), 1);
+        fine(x.known(1, 0), 1);
+        fine(x.known(0, 1), 0);
     }
 
     @Sentence(of = "Promise 27", says = "(2).")
@@ -432,6 +450,9 @@ final class ColouringSentences extends Sentences {
         }
         game("players 6;");
         fine(x.nearest(0, 1), 63);
+        game("players 2;guess 0 fixed 1;guess 1 fixed 1;");
+        fine(x.nearest(0, 1), 0);
+        fine(x.nearest(3, 1), 0);
     }
 
     @Sentence(of = "Promise 28", says = "(1) (1;")

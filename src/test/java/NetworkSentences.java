@@ -20,6 +20,43 @@ final class NetworkSentences extends Sentences {
         fine(x.renumber(0), 8 * 2);
     }
 
+    /** Six PLAYERS with a LINK for each two letters, which are their numbers. */
+    private void linked(String pairs, int renumberings) {
+        StringBuilder text = new StringBuilder("players 6;");
+        for (String pair : pairs.split(" ")) {
+            text.append("link ").append(pair.charAt(0)).append(' ').append(pair.charAt(1)).append(';');
+        }
+        game(text.toString());
+        fine(x.renumber(0), renumberings);
+        fine(x.renumber(1), renumberings);
+    }
+
+    @Sentence(of = "Promise 43", says = "How many RENUMBERINGS there")
+    void howManyRenumberingsOfSix() {
+        // Lines: itself, and the other way round.
+        linked("30 05 51 14 42", 2);
+        linked("01 12 23 34 45", 2);
+        linked("53 31 10 04 42", 2);
+        linked("25 54 40 03 31", 2);
+        linked("41 13 35 50 02", 2);
+        linked("14 42 20 03 35", 2);
+        linked("50 03 32 24 41", 2);
+        // A ring, two rings of three, these with a LINK from each to one of the other.
+        linked("05 52 23 31 14 40", 12);
+        linked("03 35 50 12 24 41", 72);
+        linked("02 24 40 13 35 51 05 21 43", 12);
+        // Three to whom three others are linked, all but three pairs, and three pairs.
+        linked("01 02 05 31 32 35 41 42 45", 72);
+        linked("01 02 03 05 12 14 15 23 24 34 35 45", 48);
+        linked("04 13 25", 48);
+        // A wheel.
+        linked("01 12 23 34 40 50 51 52 53 54", 10);
+        game("players 6;sees 0 3;sees 3 5;sees 5 0;sees 1 2;sees 2 4;sees 4 1;");
+        fine(x.renumber(0), 18);
+        game("players 6;sees 0 3;sees 3 5;sees 5 1;sees 1 2;sees 2 4;sees 4 0;");
+        fine(x.renumber(0), 6);
+    }
+
     @Sentence(of = "Promise 43", says = "how many of them KEEP the TABLES (1)")
     void howManyKeepTheTables() {
         fine(x.renumber(1), 1);
@@ -37,6 +74,12 @@ final class NetworkSentences extends Sentences {
         x.undo();
         x.set(0, 4, 1);
         fine(x.renumber(1), 2);
+        // 1 guesses otherwise, if 0 and 2 have 1: these two can change places.
+        game("players 3;link 0 1;link 0 2;link 1 2;");
+        x.set(1, 3, 1);
+        fine(x.renumber(1), 2);
+        fine(x.alike(1, 2), 0);
+        fine(x.alike(0, 2), 1);
     }
 
     @Sentence(of = "Promise 43", says = "(1) (1).")
@@ -71,6 +114,12 @@ final class NetworkSentences extends Sentences {
         fine(x.renumber(0), 2);
         game("players 2;sees 0 1;");
         fine(x.alike(0, 1), 0);
+        // Another one sees, or is seen by, one of the two alone.
+        for (String text : new String[] {"players 3;sees 0 1;", "players 3;sees 1 0;", "players 3;link 2 0;"}) {
+            game(text);
+            fine(x.alike(1, 2), 0);
+            fine(x.renumber(0), text.contains("link") ? 2 : 1);
+        }
     }
 
     @Sentence(of = "Promise 44", says = "(2;")

@@ -14,7 +14,7 @@ import java.util.List;
 public final class SentencesTest {
     private static final List<Class<? extends Sentences>> ALL = List.of(TextSentences.class, TermSentences.class,
         StatusSentences.class, TableSentences.class, ColouringSentences.class, BoundSentences.class,
-        NetworkSentences.class, ActSentences.class);
+        NetworkSentences.class, ActSentences.class, SizeSentences.class);
 
     private final Document document = new Document(Path.of("../shared/DOC.md"));
     private final boolean listing;

@@ -468,6 +468,9 @@ final class TableSentences extends Sentences {
         fine(x.heeded(2), 0);
         x.set(0, 7, 1);
         fine(x.heeded(0), 32);
+        game("players 2;link 0 1;guess 0 same 1;guess 1 same 0;");
+        fine(x.heeded(0), 2);
+        fine(x.heeded(1), 1);
     }
 
     @Sentence(of = "Promise 13", says = "(2).")

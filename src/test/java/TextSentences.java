@@ -372,6 +372,16 @@ final class TextSentences extends Sentences {
         fault(2, "players 2;hats 0 3 ^3;");
         fault(2, "players 2;link 0 ^;");
         fault(2, LINKED + "guess 0 ^guess 0;");
+        for (String word : new String[] {"olayers", "playerz", "player", "plaiers", "playersa"}) {
+            fault(2, "^" + word + " 2;");
+        }
+        for (String word : new String[] {"fats", "hatz", "hat", "hatss", "pink", "linc", "bees", "seeds", "suess", "gues"}) {
+            fault(2, "players 2;^" + word + " 0 1;");
+        }
+        for (String word : new String[] {"dum", "su", "sun", "came", "sane", "text", "nest", "mixed", "fixes", "fable",
+            "tables", "tabla"}) {
+            fault(2, LINKED + "guess 0 ^" + word + " 1;");
+        }
     }
 
     @Sentence(of = TERMS, says = "(the end of the text: its length;")
@@ -483,6 +493,7 @@ final class TextSentences extends Sentences {
     void hatsToldAlready() {
         fault(4, "players 2;hats 1 3;hats ^1 3;");
         fault(4, "players 2;hats 1 2;hats ^1");
+        fault(4, "players 3;hats 0 3;hats 1 3;hats 2 3;hats ^0 3;");
         game("players 2;hats 1 3;hats 0 3;");
     }
 
@@ -491,6 +502,7 @@ final class TextSentences extends Sentences {
         fault(4, "players 2;guess 1 sum 0;guess ^1 sum 0;");
         fault(4, "players 2;guess 1 sum 0;guess ^1");
         fault(4, "players 2;guess 1 sum 0;guess ^1 x");
+        fault(4, "players 3;guess 0 sum 0;guess 1 sum 0;guess 2 sum 0;guess ^0 sum 0;");
     }
 
     @Sentence(of = TERMS, says = "that it sees the other one (at the second NUMBER;")
