@@ -285,15 +285,15 @@ final class BoundSentences extends Sentences {
         refused(x.bettered(), THERE_IS_NONE);
     }
 
-    /** 3 to the 9th: each of 3 COLOURS, each sees the next one. */
-    private static final String MOST_WAYS = "players 3;hats 0 3;hats 1 3;hats 2 3;sees 0 1;sees 1 2;sees 2 0;";
+    /** Each of 3 COLOURS, each sees the next one: 3 to the 9th ways, the most that are not too many. */
+    private static final String ONE_WAY_RING = "players 3;hats 0 3;hats 1 3;hats 2 3;sees 0 1;sees 1 2;sees 2 0;";
     /** 3 to the 4th times 2 to the 8th: no less above 20,000 is made of 2, 3 and 4. */
     private static final String TOO_MANY_WAYS = "players 5;hats 0 3;hats 1 3;sees 1 0;sees 2 3;sees 2 4;sees 3 4;"
         + "sees 4 2;";
 
     @Sentence(of = "Promise 41", says = "Of all ways in which all PLAYERS could guess, if there are at most 20,000 of them,")
     void waysUpToTwentyThousand() {
-        game(MOST_WAYS);
+        game(ONE_WAY_RING);
         fine(x.ways(0), 19683);
         game(TOO_MANY_WAYS);
         refused(x.ways(0), TOO_MANY);
@@ -317,7 +317,7 @@ final class BoundSentences extends Sentences {
         fine(x.ways(0), 16384);
     }
 
-    /** The ways of MOST_WAYS by themselves: how many are WON, or how few are LOST in one. */
+    /** The ways of ONE_WAY_RING by themselves: how many are WON, or how few are LOST in one. */
     private static int waysRoundThree(boolean lostInOne) {
         int won = 0;
         int fewest = MAX;
@@ -349,7 +349,7 @@ final class BoundSentences extends Sentences {
         fine(x.ways(1), 0);
         game("players 2;hats 0 4;hats 1 1;sees 0 1;");
         fine(x.ways(1), 4);
-        game(MOST_WAYS);
+        game(ONE_WAY_RING);
         fine(x.ways(1), waysRoundThree(false));
         game("players 3;link 0 1;");
         fine(x.ways(1), 2 * 2);
@@ -366,7 +366,7 @@ final class BoundSentences extends Sentences {
         fine(x.ways(2), 0);
         game("players 6;hats 0 4;hats 1 4;hats 2 4;hats 3 4;hats 4 4;hats 5 4;");
         fine(x.ways(2), 729);
-        game(MOST_WAYS);
+        game(ONE_WAY_RING);
         fine(x.ways(2), waysRoundThree(true));
     }
 
@@ -392,8 +392,6 @@ final class BoundSentences extends Sentences {
     }
 
     // ---- search
-
-    private static final String ONE_WAY_RING = "players 3;hats 0 3;hats 1 3;hats 2 3;sees 0 1;sees 1 2;sees 2 0;";
 
     /** By set() and better(): draws the TABLES of ONE_WAY_RING itself. */
     private int lostFrom(long seed) {
