@@ -658,8 +658,8 @@ public final class NaiveHatNet {
             return no(2);
         }
         int many = 0;
-        for (int x : lostOnes()) {
-            many += all(g).get(x)[p] == colour ? 1 : 0;
+        for (int[] c : all(g)) {
+            many += rightBits(g, c) == 0 && c[p] == colour ? 1 : 0;
         }
         return ok(many);
     }
@@ -829,19 +829,17 @@ public final class NaiveHatNet {
     // ---- ways to guess
 
     private static int[] bestTable(State s, int p) {
-        int[] best = new int[situations(s, p)];
-        for (int i = 0; i < best.length; i++) {
-            int fewest = Integer.MAX_VALUE;
+        int[][] lost = new int[situations(s, p)][s.h[p]];
+        for (int[] c : all(s)) {
+            boolean others = (rightBits(s, c) & ~(1 << p)) != 0;
             for (int v = 0; v < s.h[p]; v++) {
-                int lost = 0;
-                for (int[] c : all(s)) {
-                    boolean others = (rightBits(s, c) & ~(1 << p)) != 0;
-                    lost += sit(s, p, c) == i && !others && c[p] != v ? 1 : 0;
-                }
-                if (lost < fewest) {
-                    fewest = lost;
-                    best[i] = v;
-                }
+                lost[sit(s, p, c)][v] += !others && c[p] != v ? 1 : 0;
+            }
+        }
+        int[] best = new int[lost.length];
+        for (int i = 0; i < best.length; i++) {
+            for (int v = 1; v < s.h[p]; v++) {
+                best[i] = lost[i][v] < lost[i][best[i]] ? v : best[i];
             }
         }
         return best;

@@ -14,6 +14,8 @@ public final class RandomRunsTest {
     private final List<Method> methods = new ArrayList<>();
     private Random random = new Random(0);
     private int players;
+    /** Whether games are of five or six players, with up to 4,096 colourings. */
+    private boolean large = false;
 
     public static void main(String[] args) throws Exception {
         new RandomRunsTest().run();
@@ -30,60 +32,20 @@ public final class RandomRunsTest {
             random = new Random(1000 + run);
             oneRun(run);
         }
+        large = true;
         for (int run = 0; run < LARGE_RUNS; run++) {
             random = new Random(run);
-            oneLargeRun();
+            oneRun(RUNS + run);
         }
         check.end();
-    }
-
-    /** Large games, where the plain document would be too slow: no call may throw, or answer wildly. */
-    private void oneLargeRun() throws Exception {
-        HatNet x = new HatNet();
-        for (int call = 0; call < CALLS; call++) {
-            if (call % 80 == 0) {
-                String text = largeText();
-                Check.feed(x, text);
-                players = x.load(text.length());
-                check.due(text + " is loaded", players, text.charAt(8) - '0');
-                players = x.many(0);
-            }
-            Method m = methods.get(random.nextInt(methods.size()));
-            if (m.getName().equals("feed")) {
-                continue;
-            }
-            Object[] with = arguments(m);
-            int answer = (Integer) m.invoke(x, with);
-            boolean counts = m.getName().equals("search") || m.getName().equals("shuffle");
-            check.due(m.getName() + java.util.Arrays.toString(with) + " answers " + answer,
-                answer >= HatNet.NONE && (answer <= 20000 || counts) ? 1 : 0, 1);
-        }
-    }
-
-    private String largeText() {
-        int n = 5 + random.nextInt(2);
-        StringBuilder b = new StringBuilder("players " + n + ";");
-        for (int p = 0; p < n; p++) {
-            b.append("hats ").append(p).append(' ').append(2 + random.nextInt(3)).append(';');
-        }
-        for (int p = 0; p < n; p++) {
-            for (int q = p + 1; q < n; q++) {
-                int kind = random.nextInt(6);
-                b.append(kind == 0 ? "" : kind == 1 ? "sees " + q + " " + p + ";" : "link " + p + " " + q + ";");
-            }
-        }
-        for (int p = 0; p < n; p++) {
-            b.append("guess ").append(p).append(" sum ").append(random.nextInt(100)).append(';');
-        }
-        return b.toString();
     }
 
     private void oneRun(int run) throws Exception {
         HatNet x = new HatNet();
         NaiveHatNet y = new NaiveHatNet();
         for (int call = 0; call < CALLS; call++) {
-            if (call % 60 == 0 || random.nextInt(60) == 0) {
-                both(run, x, y, random.nextInt(3) == 0 ? spoilt(text()) : text());
+            if (large ? call % 80 == 0 : call % 60 == 0 || random.nextInt(60) == 0) {
+                both(run, x, y, large ? largeText() : random.nextInt(3) == 0 ? spoilt(text()) : text());
             }
             Method m = methods.get(random.nextInt(methods.size()));
             if (m.getName().equals("feed")) {
@@ -96,6 +58,24 @@ public final class RandomRunsTest {
             check.due(what, (Integer) got, (Integer) want);
             check.due(what + ", status", x.status(), y.status());
         }
+    }
+
+    private String largeText() {
+        int n = 5 + random.nextInt(2);
+        StringBuilder b = new StringBuilder("players " + n + ";");
+        for (int p = 0; p < n; p++) {
+            b.append("hats ").append(p).append(' ').append(random.nextInt(12) == 0 ? 1 : 2 + random.nextInt(3)).append(';');
+        }
+        for (int p = 0; p < n; p++) {
+            for (int q = p + 1; q < n; q++) {
+                int kind = random.nextInt(6);
+                b.append(kind == 0 ? "" : kind == 1 ? "sees " + q + " " + p + ";" : "link " + p + " " + q + ";");
+            }
+        }
+        for (int p = 0; p < n; p++) {
+            b.append("guess ").append(p).append(" sum ").append(random.nextInt(100)).append(';');
+        }
+        return b.toString();
     }
 
     private void both(int run, HatNet x, NaiveHatNet y, String text) {
@@ -135,13 +115,13 @@ public final class RandomRunsTest {
         }
         switch (name + i) {
             case "right0", "nearest0", "situation1", "colour1":
-                return random.nextInt(random.nextBoolean() ? 8 : 90);
+                return random.nextInt(random.nextBoolean() ? 8 : large ? 4096 : 90);
             case "guess1", "bestAt1", "set1":
-                return random.nextInt(random.nextBoolean() ? 3 : 12);
+                return random.nextInt(random.nextBoolean() ? 3 : large ? 300 : 12);
             case "without0", "together0", "share0", "build0":
                 return random.nextInt((1 << players) + 1);
             case "lost0":
-                return random.nextInt(8) - 1;
+                return random.nextInt(large ? 400 : 8) - 1;
             case "exact0", "atLeast0":
                 return random.nextInt(8);
             case "shuffle0", "search0":
@@ -149,11 +129,11 @@ public final class RandomRunsTest {
             case "search1":
                 return 1 + random.nextInt(3);
             case "out0":
-                return random.nextInt(300);
+                return random.nextInt(large ? 610 : 300);
             case "fault0", "many0", "player1", "crowd0", "nearest1", "share1", "ways0", "search2", "renumber0":
                 return random.nextInt(4);
             case "often1", "known1", "rename1", "rename2", "set2":
-                return random.nextInt(3);
+                return random.nextInt(large ? 4 : 3);
             default:
                 return random.nextInt(players + (random.nextInt(6) == 0 ? 1 : 0) + (players == 0 ? 1 : 0));
         }
